@@ -851,12 +851,24 @@ public final class ForcedRings {
         }
 
         boolean isFound(int m, int figures) {
-            for (int k = 0; k < amount[m]; k++) {
-                if (at(m, k) == figures) {
-                    return true;
+            int k = placeFor(m, figures);
+            return k < amount[m] && at(m, k) == figures;
+        }
+
+        /** How many found ones of m are less than these figures. */
+        private int placeFor(int m, int figures) {
+            int low = 0;
+            int high = amount[m];
+            // Each step at least halves what is between: 32 are enough for any number of these.
+            for (int step = 0; step < 32 && low < high; step++) {
+                int middle = (low + high) / 2;
+                if (at(m, middle) < figures) {
+                    low = middle + 1;
+                } else {
+                    high = middle;
                 }
             }
-            return false;
+            return low;
         }
 
         /** Asked only of a chart on a line. */
@@ -871,7 +883,7 @@ public final class ForcedRings {
             addRings(m, chart);
             for (int piece = 0; piece < pieces.number; piece++) {
                 loop[0] = piece;
-                extend(m, 1);
+                extend(this, m, 1);
             }
         }
 
@@ -905,19 +917,20 @@ public final class ForcedRings {
         }
 
         /** Goes through all loops of m that begin with the pieces laid so far. */
-        private void extend(int m, int length) {
-            if (length < 1 || length > m || amount[m] >= MOST[m]) {
+        private static void extend(Patterns sought, int m, int length) {
+            if (length < 1 || length > m || sought.amount[m] >= MOST[m]) {
                 return;
             }
             if (length == m) {
-                takeLoop(m);
+                sought.takeLoop(m);
                 return;
             }
+            int[] loop = sought.loop;
             // Another beginning has the same pattern: the least piece first is enough.
-            for (int piece = loop[0]; piece < pieces.number; piece++) {
-                if (pieces.isCovered(piece, loop[length - 1])) {
+            for (int piece = loop[0]; piece < sought.pieces.number; piece++) {
+                if (sought.pieces.isCovered(piece, loop[length - 1])) {
                     loop[length] = piece;
-                    extend(m, length + 1);
+                    extend(sought, m, length + 1);
                 }
             }
         }
@@ -927,15 +940,23 @@ public final class ForcedRings {
                 return;
             }
             System.arraycopy(loop, 0, loop, m, m);
-            if (isSimple(m)) {
+            if (numberRows(m)) {
                 add(m, loopFigures(m));
             }
         }
 
-        private boolean isSimple(int m) {
-            for (int row = 1; row < m; row++) {
-                if (firstOther(m, 0, row) == m) {
-                    return false;
+        /** Each row gets as its number how many are less; false if two are alike: the loop isn't simple then. */
+        private boolean numberRows(int m) {
+            for (int row = 0; row < m; row++) {
+                lessRows[row] = 0;
+            }
+            for (int row = 0; row < m; row++) {
+                for (int other = row + 1; other < m; other++) {
+                    int place = firstOther(m, row, other);
+                    if (place == m) {
+                        return false;
+                    }
+                    lessRows[isLess(row, other, place) ? other : row]++;
                 }
             }
             return true;
@@ -950,11 +971,7 @@ public final class ForcedRings {
             return place;
         }
 
-        private boolean isLess(int m, int row, int other) {
-            int place = firstOther(m, row, other);
-            if (place == m) {
-                return false;
-            }
+        private boolean isLess(int row, int other, int place) {
             boolean even = true;
             for (int i = 0; i < place; i++) {
                 if (pieces.falls(loop[row + i])) {
@@ -965,12 +982,6 @@ public final class ForcedRings {
         }
 
         private int loopFigures(int m) {
-            for (int row = 0; row < m; row++) {
-                lessRows[row] = 0;
-                for (int other = 0; other < m; other++) {
-                    lessRows[row] += isLess(m, other, row) ? 1 : 0;
-                }
-            }
             for (int row = 0; row < m; row++) {
                 leads[lessRows[row]] = lessRows[row + 1 < m ? row + 1 : 0];
             }
@@ -986,10 +997,9 @@ public final class ForcedRings {
             if (amount[m] >= MOST[m] || isFound(m, figures)) {
                 return;
             }
-            int place = START[m] + amount[m];
-            while (place > START[m] && found[place - 1] > figures) {
-                found[place] = found[place - 1];
-                place--;
+            int place = START[m] + placeFor(m, figures);
+            for (int i = START[m] + amount[m]; i > place; i--) {
+                found[i] = found[i - 1];
             }
             found[place] = figures;
             amount[m]++;
