@@ -101,5 +101,16 @@ public final class FaceTest {
         for (String word : RULED_OUT) {
             due.is("ruled out: " + word, Pattern.compile(word).matcher(source).find() ? 1 : 0, 0);
         }
+        onlyFieldsAreMade(source);
+    }
+
+    /** No call makes anything: all rows are made with the object, and used again. */
+    private static void onlyFieldsAreMade(String source) {
+        Pattern field = Pattern.compile("\\s+(private )?final [\\w\\[\\]]+ \\w+ = new .*;");
+        for (String line : source.split("\n")) {
+            if (Pattern.compile("\\bnew\\b").matcher(line).find()) {
+                due.is("made with the object: " + line, field.matcher(line).matches() ? 1 : 0, 1);
+            }
+        }
     }
 }

@@ -122,6 +122,9 @@ public final class PiecesTest {
         check("345120", 2 + 4 + 16 + 64 + 256 + 1024 + 4096);
         // No loop of 1 here, but a point led to itself.
         check("00", 2);
+        check("210", 6);
+        // Nor a simple loop of 2 here, but a ring of 2 ahead of a ring of 1.
+        check("102", 6);
         ForcedRings round = Due.onCircle("120");
         due.is("13 on a circle 1", round.forced(1), 0);
         due.is("13 on a circle 3", round.forced(3), 1);

@@ -135,6 +135,13 @@ public final class PointsTest {
         due.is("7 of 8", y.rings(1), 8);
         due.is("7 greatest of 8", y.rings(2), 8);
         due.is("7 all 8", y.rings(3), 1);
+        ForcedRings still = new ForcedRings();
+        due.is("7 each is a ring", still.rings(0), 3);
+        due.is("7 all are on rings", still.rings(1), 3);
+        due.is("7 greatest of 1", still.rings(2), 1);
+        due.is("7 all still", still.rings(3), 1);
+        due.is("7 the first on none", Due.led("1122").rings(1), 2);
+        due.is("7 not all", Due.led("1122").rings(3), 0);
         for (int bad : new int[] {LEAST, -1, 4, MOST}) {
             due.is("7 what " + bad, x.rings(bad), BAD);
         }

@@ -57,6 +57,16 @@ public final class TextsTest {
         text(8, "(7 6 5 4 3 2 1 0)", 1, 70123456);
         text(8, "(0)(1)(2)(3)(4)(5)(6)(7)", 8, 1234567);
         text(8, "(0 7)(1 6)(2 5)(3 4)", 4, 76543210);
+        ForcedRings x = new ForcedRings();
+        Due.readText(x, "(0 1 2)");
+        due.is("23 another text", Due.readText(x, "(1 2)"), 1);
+        due.is("23 nothing of the text before", x.map(), 21);
+        due.is("23 a text behind a fault", Due.readText(x, "(2 0)(1 "), -108);
+        due.is("23 nothing of the fault", Due.readText(x, "(1)"), 1);
+        due.is("23 map behind a fault", x.map(), 12);
+        Due.feedAll(x, "(5)(2)");
+        x.points(8);
+        due.is("23 points as they are by then", x.read(), 2);
     }
 
     private static void fault(int n, String text, int place, int rings, int points) {
@@ -95,6 +105,9 @@ public final class TextsTest {
         fault(3, "(0  1)", 3, 0, 1);
         fault(3, "(0 0)", 3, 0, 1);
         fault(3, "(0 1 0)", 5, 0, 2);
+        fault(3, "(0 1 1)", 5, 0, 2);
+        fault(8, "(7 7)", 3, 0, 1);
+        fault(8, "(5 2)(6 2)", 8, 1, 3);
         fault(3, "(0) ", 3, 1, 1);
         fault(3, "(0))", 3, 1, 1);
         fault(3, "(0) (1)", 3, 1, 1);

@@ -31,6 +31,7 @@ public final class TurningsTest {
         turned("0012", 1, 2, 0, 1, 3112);
         turned("1203", 1, 3, 0, 1, 2013);
         turned("1200", 1, 3, 0, 0, 1200);
+        turned("112", 1, 3, 0, 0, 112);
         turned("012", 1, 4, 0, 1, 12);
         turned("012", 1, 4, 1, 1, 120);
         turned("01", 1, 4, 7, 1, 10);
