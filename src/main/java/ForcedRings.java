@@ -994,14 +994,14 @@ public final class ForcedRings {
 
         /** Keeps the patterns of m rising, each once. */
         private void add(int m, int figures) {
-            if (amount[m] >= MOST[m] || isFound(m, figures)) {
+            int k = placeFor(m, figures);
+            if (amount[m] >= MOST[m] || k < amount[m] && at(m, k) == figures) {
                 return;
             }
-            int place = START[m] + placeFor(m, figures);
-            for (int i = START[m] + amount[m]; i > place; i--) {
+            for (int i = START[m] + amount[m]; i > START[m] + k; i--) {
                 found[i] = found[i - 1];
             }
-            found[place] = figures;
+            found[START[m] + k] = figures;
             amount[m]++;
         }
     }
