@@ -205,6 +205,15 @@ public final class EdgesOfPatternsTest {
         patterns(edge, "202", 4, 3012, 3201);
     }
 
+    @Says(promise = 17, words = "Of two ROWS that one is less whose PIECE is less at the first place at which they are otherwise,")
+    static void rowsThatAreOtherwiseAtTheirLastPlaceAlone(Edge edge) {
+        // The loop 0 0 0 0 0 1 of rising pieces, 1 1 1 1 1 0 of falling ones, and all between.
+        patterns(edge, "020", 5, 12340, 13420, 24310);
+        patterns(edge, "020", 6, 123450, 124530, 135420, 234510, 354210);
+        patterns(edge, "202", 5, 40123, 42013, 43102);
+        patterns(edge, "202", 6, 501234, 520134, 531024, 540123, 543102);
+    }
+
     @Says(promise = 17, words = "PATTERN of a RING of m points: points numbered so by how many points of it are less.")
     static void aRingOfTheLastPoints(Edge edge) {
         patterns(edge, "00000576", 2, 10);
@@ -268,6 +277,17 @@ public final class EdgesOfPatternsTest {
         // Piece 2 covers two that cover none: 0 by 2.
         fractions(edge, Due.led("0002"), 1, 0, 1, 0, 1);
         fractions(edge, Due.led("01"), 10, 1, 1, 1, 1);
+    }
+
+    @Says(promise = 19, words = "the least fraction (what 0), the greatest (1): part 0 above, 1 below the line.")
+    static void theLeastIsTheGreatestOfOnePiece(Edge edge) {
+        for (int k = 0; k <= 10; k++) {
+            fractions(edge, Due.led("10"), k, 1, 1, 1, 1);
+            fractions(edge, Due.onCircle("10"), k, 1, 1, 1, 1);
+        }
+        // Of two pieces the first is the least, then the other way round.
+        fractions(edge, Due.led("120"), 0, 1, 1, 2, 1);
+        fractions(edge, Due.led("201"), 0, 1, 1, 2, 1);
     }
 
     @Says(promise = 19, words = "of all PIECES whose COUNT at k is above 0 COUNT at k + 1 by COUNT at k")

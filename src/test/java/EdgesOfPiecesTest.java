@@ -63,6 +63,16 @@ public final class EdgesOfPiecesTest {
         edge.is("covers(1, 0) of two points", Due.onCircle("10").covers(1, 0), 1);
     }
 
+    @Says(promise = 10, words = "on a circle those one comes through from a on to b, forward (none, if they are the same).")
+    static void oneStepForwardAllButOneAndNone(Edge edge) {
+        ForcedRings x = Due.onCircle("00776701");
+        // From 0 to 0, 0 to 7, 7 to 7, 7 to 6, 6 to 7, 7 to 0, 0 to 1, 1 to 0.
+        int[] covered = {0, 127, 0, 255 - 64, 64, 128, 1, 254};
+        for (int piece = 0; piece < covered.length; piece++) {
+            edge.is("covers(" + piece + ", 0)", x.covers(piece, 0), covered[piece]);
+        }
+    }
+
     @Says(promise = 10, words = "A PIECE FALLS (on a line alone), if a is greater than b.")
     static void fallsOnlyIfGreaterAndOnlyOnALine(Edge edge) {
         String[] maps = {"01", "00", "11", "10"};
@@ -189,6 +199,17 @@ public final class EdgesOfPiecesTest {
         edge.is("loops(7, 1), round seven of a circle", Due.onCircle("1234560").loops(7, 1), 7);
     }
 
+    @Says(promise = 12, words = "(as a row of m PIECES; it may begin at any of these: each beginning is one of its own)")
+    static void theSameRowByEachBeginning(Edge edge) {
+        // Piece 0 covers 1, 1 covers 0 and 1: the row 0 1 1 of three beginnings, and 1 1 1 of just one.
+        ForcedRings x = Due.led("120");
+        edge.is("loops(3, 0)", x.loops(3, 0), 3 + 1);
+        edge.is("loops(3, 1)", x.loops(3, 1), 3);
+        // Of four: 0 1 1 1 of four, 0 1 0 1 of two, 1 1 1 1 of one.
+        edge.is("loops(4, 0)", x.loops(4, 0), 4 + 2 + 1);
+        edge.is("loops(4, 1)", x.loops(4, 1), 4);
+    }
+
     @Says(promise = 12, words = "SIMPLE: a LOOP that isn't a shorter one several times.")
     static void aShorterOneSeveralTimes(Edge edge) {
         ForcedRings still = Due.led("01");
@@ -312,6 +333,19 @@ public final class EdgesOfPiecesTest {
         }
     }
 
+    @Says(promise = 15, words = "(Of m, its part that is odd and the power of 2: odd parts above 1 by lesser powers, then by lesser parts;")
+    static void lesserPowersAheadOfLesserParts(Edge edge) {
+        ForcedRings x = new ForcedRings();
+        edge.is("ahead(99, 6), the power alone", x.ahead(99, 6), 1);
+        edge.is("ahead(6, 99)", x.ahead(6, 99), 0);
+        edge.is("ahead(97, 99), the part alone", x.ahead(97, 99), 1);
+        edge.is("ahead(99, 97)", x.ahead(99, 97), 0);
+        edge.is("ahead(80, 96), the greatest power with one more above it", x.ahead(80, 96), 1);
+        edge.is("ahead(96, 80)", x.ahead(96, 80), 0);
+        edge.is("ahead(3, 1), the least odd part above 1", x.ahead(3, 1), 1);
+        edge.is("ahead(1, 3)", x.ahead(1, 3), 0);
+    }
+
     @Says(promise = 15, words = "those of odd part 1 behind all others, the greater first.")
     static void powersOf2BehindAllOthers(Edge edge) {
         ForcedRings x = new ForcedRings();
@@ -349,6 +383,16 @@ public final class EdgesOfPiecesTest {
         edge.is("order(12, 1)", x.order(12, 1), 7);
         for (int place = 0; place < 12; place++) {
             edge.is("the place of the number at " + place, x.order(x.order(place, 0), 1), place);
+        }
+    }
+
+    @Says(promise = 16, words = "Place i (from 0) of the numbers 1 .. 12 in the old order; of number m its place (way 1).")
+    static void onlyTheNumbers1To12HavePlaces(Edge edge) {
+        int[] ordered = {3, 5, 7, 9, 11, 6, 10, 12, 8, 4, 2, 1};
+        ForcedRings x = new ForcedRings();
+        for (int place = 0; place < ordered.length; place++) {
+            edge.is("order(" + place + ", 0)", x.order(place, 0), ordered[place]);
+            edge.is("order(" + ordered[place] + ", 1)", x.order(ordered[place], 1), place);
         }
     }
 

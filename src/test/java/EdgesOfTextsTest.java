@@ -327,6 +327,18 @@ public final class EdgesOfTextsTest {
         }
     }
 
+    @Says(promise = 24, words = "of layer 2 the FAULT.")
+    static void theFaultItselfFromTheFirstPlaceToTheLast(Edge edge) {
+        String[] texts = {"", "x", "(", "(0", "(0 ", "(0 1", "(0 1)x", "(0 1)(", "(0)(1)(2)(3)(4)(5)(6)(7)("};
+        int[] places = {0, 0, 1, 2, 3, 4, 5, 6, 25};
+        for (int i = 0; i < texts.length; i++) {
+            ForcedRings x = new ForcedRings();
+            x.points(8);
+            edge.is(texts[i] + ": read()", Due.readText(x, texts[i]), -100 - places[i]);
+            edge.is(texts[i] + ": why(2)", x.why(2), places[i]);
+        }
+    }
+
     @Says(promise = 24, words = "of layer 1 how many points were told by then, of all RINGS")
     static void theFigureOfTheFaultIsNotCounted(Edge edge) {
         ForcedRings x = new ForcedRings();
